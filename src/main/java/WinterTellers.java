@@ -1500,7 +1500,7 @@ public final class WinterTellers {
         /** From the last house back: the most nights from a house on, by which tales are used ahead of it. */
         void findPlaces() {
             weighAll();
-            Arrays.fill(mostFrom, coast.houses * SETS, (coast.houses + 1) * SETS, 0);
+            Arrays.fill(mostFrom, 0);
             for (int house = coast.houses - 1; house >= 0; house--) {
                 for (int used = 0; used <= coast.allTales(); used++) {
                     mostFrom[house * SETS + used] = nightsBy(house, used, placeFor(house, used));

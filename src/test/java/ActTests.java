@@ -296,7 +296,12 @@ public final class ActTests {
     restUpTo(x, 9980);
     Check.due("beyond", x.tells(0), NONE);
     Check.due("status 4", x.status(4), 1);
-    restUpTo(x, 9998);
+    restUpTo(x, 9997);
+    Check.due("learning just does", x.learns(1), 2);
+    Check.due("the last day", x.count(5), 9999);
+    x.undo();
+    restUpTo(x, 9999);
+    x.undo();
     Check.due("learning beyond", x.learns(1), NONE);
     Check.due("goes just", x.goes(1), 1);
     Check.due("goes beyond", x.goes(0), NONE);
@@ -337,6 +342,42 @@ public final class ActTests {
     Check.due("too many", x.years(61, 1), NONE);
     Check.due("no status", x.status(1), 0);
     Check.due("no act", x.count(14), 0);
+    drawnYears();
+  }
+
+  /** Draws of 3, 2 and 10 from 0: 2 0 7, 1 1 1, 2 1 4, 0 1 2, 0 1 0; from -1: 1 1 7, 2 0 7, 0 1 0. */
+  private static void drawnYears() {
+    WinterTellers x = Check.coast("sb3m2;h;h;h;t;t");
+    Check.law(x, "y:4");
+    Check.due("one round", x.years(1, 0L), 2);
+    counts("one round", x, 2, 2, 2, 1, 0, 0);
+    x.undo();
+    Check.due("five rounds", x.years(5, 0L), 22);
+    counts("five rounds", x, 22, 0, 2, 7, 16, 0, 2, 0, 4, 5);
+    int[] houses = {0, 0, 2, 1};
+    for (int i = 0; i < houses.length; i++) {
+      Check.due("log " + i, x.log(i, 0), houses[i]);
+      Check.due("log " + i, x.log(i, 1), 1);
+    }
+    for (int i = 4; i > 1; i--) {
+      Check.due("one round back", x.undo(), i);
+    }
+    counts("two rounds", x, 7, 1, 2, 4, 4, 0, 2, 0, 1, 2);
+    WinterTellers y = Check.coast("sb0m3;h;h;h;t;t");
+    Check.law(y, "y:4");
+    Check.due("from -1", y.years(3, -1L), 12);
+    counts("from -1", y, 12, 0, 3, 6, 12, 0);
+    WinterTellers z = Check.coast("sb0m3;h;h;h;t;t");
+    Check.law(z, "y:4");
+    z.whys(0);
+    z.years(3, -1L);
+    Check.due("without whys", z.count(8), 3);
+    z.whys(8);
+    z.undo();
+    z.undo();
+    z.undo();
+    z.years(3, -1L);
+    Check.due("with whys below 8", z.count(8), 8);
   }
 
   private static void status() {

@@ -119,6 +119,19 @@ public final class PlanTests {
     Check.due("two: 2 with 3", x.fewest(7), 12);
     Check.due("by none", x.fewest(8), NONE);
     Check.due("by none", x.fewest(20), NONE);
+    Check.due("one night", x.fewest(1), 1);
+    Check.due("twenty nights", Check.coast(COAST).fewest(20), 2);
+    WinterTellers all = Check.coast("hc0;hc1;hc2;hc3;hc4;hc5;tk0;tk1;tk2;tk3;tk4;tk5");
+    Check.law(all, "y:c=k?9;y:0");
+    Check.due("each house wants its own", all.fewest(9), 63);
+    Check.due("the way back is as long as the coast", all.round(0), 11);
+    Check.due("to each house its own", all.places(0), 12345);
+    Check.due("nights", all.places(1), 54);
+    Check.due("one of six is told", all.ask(9), 0);
+    Check.law(all, "y:c=k+1?9;y:0");
+    Check.due("the first house by any, then each its own", all.places(0), 501234);
+    Check.due("nights", all.places(1), 45);
+    Check.due("the first house by none", all.fewest(9), NONE);
     Check.due("out of bounds", x.fewest(0), NONE);
     Check.due("out of bounds", x.fewest(21), NONE);
     Check.due("out of bounds", x.fewest(-1), NONE);
@@ -195,6 +208,9 @@ public final class PlanTests {
       Check.due("y", x.game(0, 0, i, 0), HIDDEN);
       Check.due("what", x.game(0, 0, 0, i), HIDDEN);
     }
+    Check.due("x", x.game(0, -1, 0, 0), HIDDEN);
+    Check.due("y", x.game(0, 0, -1, 0), HIDDEN);
+    Check.due("what", x.game(0, 0, 0, -1), HIDDEN);
     Check.due("no house", x.game(3, 0, 0, 0), HIDDEN);
     Check.due("what", x.game(0, 0, 0, 2), HIDDEN);
     Check.law(x, "y:n=0?0;y:5");
@@ -241,6 +257,7 @@ public final class PlanTests {
     Check.due("33 of 100 twice", x.odds(0, 0, 33, 3), 448900000);
     Check.due("33 of 100 six times, cut", x.odds(0, 0, 33, 7), 90458383);
     Check.due("he need not have it", x.odds(2, 2, 1, 2), 990000000);
+    Check.due("twenty nights", x.odds(0, 1, 0, 20), 1000000000);
     Check.due("no house", x.odds(3, 0, 0, 0), NONE);
     Check.due("no tale", x.odds(0, 3, 0, 0), NONE);
     Check.due("chance", x.odds(0, 0, 101, 0), NONE);
@@ -265,6 +282,8 @@ public final class PlanTests {
     Check.due("4 of 16", x.shares(1, 100), 25);
     Check.due("9 of 16", x.shares(2, 999), 561);
     Check.due("of nothing", x.shares(2, 0), 0);
+    Check.due("of one tale alone", Check.coast("h;h;tl1").shares(0, 7), 7);
+    Check.due("only of tales there are", Check.coast("h;h;tl1;tl2").shares(1, 9), 6);
     Check.due("too much", x.shares(0, 1000), NONE);
     Check.due("less", x.shares(0, -1), NONE);
     Check.due("no tale", x.shares(3, 5), NONE);
@@ -290,6 +309,7 @@ public final class PlanTests {
     Check.due("where", y.where(2, 5), 6);
     Check.due("everywhere", y.where(1, 20), 7);
     Check.due("nowhere", y.where(0, 14), 0);
+    Check.due("one night", y.where(2, 1), 7);
     Check.due("out of bounds", y.where(0, 0), NONE);
     Check.due("out of bounds", y.where(0, 21), NONE);
     Check.due("no tale", y.where(3, 1), NONE);
@@ -355,6 +375,13 @@ public final class PlanTests {
     Check.law(y, "y:c=0?0;y:3");
     Check.due("dullest", y.most(4), 1);
     Check.due("holds", y.most(8), 2);
+    WinterTellers before = Check.coast("h;hc9w9;hc9w9k7;h;t;tl9k9r1;tl9k9r1");
+    Check.tell(before, "hk2c1w1;hk3c1w1;tl1k1;tl1k1");
+    int[] due2 = {0, 0, 0, 0, 1, 0, 2, 2, 1};
+    for (int i = 0; i < due2.length; i++) {
+      Check.due("nothing of another coast " + i, before.most(i), due2[i]);
+    }
+    Check.due("reach", before.reach(), 3);
     WinterTellers none = Check.coast("sm0;h;h;t");
     Check.due("dullest, he has none", none.most(4), 0);
     Check.due("holds, he has none", none.most(8), 0);

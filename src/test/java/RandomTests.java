@@ -43,6 +43,12 @@ public final class RandomTests {
     Model y = new Model();
     int calls = 0;
     boolean mostlyActs = run % 3 == 0;
+    if (run % 5 == 0) {
+      calls = goLate(x, y, face, model);
+      if (calls < 0) {
+        return false;
+      }
+    }
     while (calls < CALLS) {
       int kind = random.nextInt(mostlyActs ? 200 : 40);
       if (calls == 0 && random.nextInt(8) != 0) {
@@ -88,6 +94,39 @@ public final class RandomTests {
       calls++;
     }
     return true;
+  }
+
+  /** Up to the last days, which no short run comes to by chance; how many calls that took, or -1. */
+  private int goLate(WinterTellers x, Model y, List<Method> face, List<Method> model) throws Exception {
+    String[] texts = {"sb99m31;hk9w9;hc9;hk63;h;t;t;t;tk9;t;t", "y:20"};
+    int calls = 0;
+    for (int sort = 0; sort < 2; sort++) {
+      for (int i = 0; i < texts[sort].length(); i += 20) {
+        if (!call(x, y, face, model, "feed", Check.word(texts[sort], i), Check.word(texts[sort], i + 4),
+            Check.word(texts[sort], i + 8), Check.word(texts[sort], i + 12), Check.word(texts[sort], i + 16))) {
+          return -1;
+        }
+        calls++;
+      }
+      if (!call(x, y, face, model, "text", sort)) {
+        return -1;
+      }
+      calls++;
+    }
+    if (!call(x, y, face, model, "law", 0)) {
+      return -1;
+    }
+    int last = 9900 + random.nextInt(99);
+    for (int i = 0; i < 100 && y.count(5) < last; i++) {
+      boolean ok = y.count(5) < 8500
+          ? call(x, y, face, model, "years", 60, random.nextLong())
+          : call(x, y, face, model, "years", 1, random.nextLong());
+      if (!ok) {
+        return -1;
+      }
+      calls++;
+    }
+    return calls + 1;
   }
 
   private static int index(List<Method> face, String name) {

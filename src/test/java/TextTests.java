@@ -45,7 +45,24 @@ public final class TextTests {
     Check.due("whole again", x.fault(0), NONE);
     Check.due("bytes above 127", x.feed(0xE9FF8001, -1, 0, 0, 0), 13);
     Check.due("a strange byte", x.fault(0), 5);
+    Check.due("end at 0", x.end(0), true);
+    Check.due("nothing left", x.count(3), 0);
+    for (int i = 0; i < 5; i++) {
+      Check.due("each number comes, in its order", x.feed(i == 0 ? 65 : 0, i == 1 ? 65 : 0, i == 2 ? 65 : 0,
+          i == 3 ? 65 : 0, i == 4 ? 65 : 0), i + 1);
+    }
     WinterTellers y = new WinterTellers();
+    for (int i = 0; i < 5; i++) {
+      y.end(0);
+      y.feed(-1, -1, -1, -1, -1);
+      for (int j = 0; j < 10; j++) {
+        y.feed(-1, -1, -1, -1, -1);
+      }
+      y.feed(-1, -1, -1, -1, 1);
+      Check.due("237 and four of one number", y.feed(i == 0 ? -1 : 0, i == 1 ? -1 : 0, i == 2 ? -1 : 0,
+          i == 3 ? -1 : 0, i == 4 ? -1 : 0), NONE);
+    }
+    y.end(0);
     for (int i = 1; i <= 12; i++) {
       Check.due("twenty more", y.feed(-1, -1, -1, -1, -1), 20 * i);
     }

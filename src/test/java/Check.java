@@ -1,5 +1,7 @@
 /** What the tests share: due answers, texts as calls of feed, and the end of a test. */
 final class Check {
+  /** The words of the document that are tested just now; empty, where a test names none. */
+  static String sentence = "";
   private static int wrong = 0;
   private static int made = 0;
 
@@ -9,7 +11,7 @@ final class Check {
     made++;
     if (got != want) {
       wrong++;
-      System.out.println(what + " answered " + got + ", due is " + want);
+      System.out.println(sentence + what + " answered " + got + ", due is " + want);
     }
   }
 

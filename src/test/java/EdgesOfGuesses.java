@@ -81,6 +81,16 @@ final class EdgesOfGuesses {
     Check.due("asks as told", x.ask(2), 0);
     x.undo();
     Check.due("what was seen is not undone", x.count(12), 1);
+    WinterTellers known = by("hk5;h;t;t;t", "y:5-n");
+    known.seen(0, 5, true);
+    Check.due("what it knows was heard once, the others never", known.told(NONE), 1);
+    Check.due("that", known.told(0), 1);
+    known.seen(0, 6, true);
+    Check.due("never is not less than that", known.told(NONE), 0);
+    WinterTellers once = by("hk5;h;t;t;t", "y:5-n");
+    once.seen(0, 4, true);
+    once.seen(0, 5, false);
+    Check.due("once is once", once.told(NONE), 2);
     x.law(NONE);
     // 4 long, 2 knots, curious 3: 7, or 2 if it knows it.
     Check.due("by the law that holds now", x.told(NONE), 3);

@@ -130,6 +130,12 @@ final class EdgesOfLaws {
     fault("y:1=1=1?1", 5);
     fault("y:1=!1?1", 4);
     fault("y:1=(1)?1", 4);
+    fault("y:!1l?1", 4);
+    fault("y:!1 2=3?1", 5);
+    fault("y:!1[2]=3?1", 4);
+    fault("y:(1l)?1", 4);
+    fault("y:1=1&2l?1", 7);
+    fault("y:1=1|k[3]?1", 7);
     worth("y:!1=1&1=2?9;y:4", 4);
     worth("y:!1=2&1=1?9;y:4", 9);
     worth("y:!(1=2&1=1)?9;y:4", 9);

@@ -260,6 +260,14 @@ final class EdgesOfPlans {
     places("sb0;hk1;h;h;t;t", "y:5-n*5", 109, 10);
     places("sb0;hk3;hk3;h;t;t", "y:n=1?0;y:5", 91, 5);
     places("sb0a1;h;hk63;h;h;h;h;t", "y:20", 99999, 20);
+    // A smaller coast has nothing of the larger one that was asked about ahead of it.
+    WinterTellers x = by(six, "y:c+k");
+    for (int houses = 5; houses >= 2; houses--) {
+      x.places(0);
+      Check.tell(x, "s" + ";hc0".repeat(houses) + ";tk1".repeat(houses));
+      Check.due("row of " + houses, x.places(0), 12345 / (int) Math.pow(10, 6 - houses));
+      Check.due("nights of " + houses, x.places(1), houses);
+    }
   }
 
   private static void placesRefused() {
@@ -508,6 +516,7 @@ final class EdgesOfPlans {
       Check.due("true", Check.coast("sm0;h;h" + tales).most(5), bits);
       Check.due("common", Check.coast("sm0;hk63;hk" + bits + ";hk63" + tales).most(6), bits);
       Check.due("common", Check.coast("sm63;hk" + bits + ";h;hk63" + tales).most(6), 0);
+      Check.due("common", Check.coast("sm63;hk" + bits + ";hk63" + tales).most(6), bits);
       Check.due("common", Check.coast("hk63;hk63;hk63;hk63;hk63;hk" + bits + tales).most(6), bits);
     }
     Check.due("of two that there are", Check.coast("hk63;hk63;t;tr1").most(6), 3);

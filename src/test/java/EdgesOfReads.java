@@ -221,6 +221,9 @@ final class EdgesOfReads {
           Check.due("heard", x.heard(house, tale), house < houses && tale < 2 ? 1 : NONE);
         }
         Check.due("curious", x.house(house, 1), house < houses ? 2 : NONE);
+        Check.due("all that is heard", x.house(house, 0), house < houses ? 3 : NONE);
+        Check.due("new", x.fresh(house, 0), house < houses ? 0 : NONE);
+        Check.due("old", x.fresh(house, 1), house < houses ? 1 : NONE);
       }
       Check.due("knots", x.tale(0, 1), 2);
       Check.due("knots", x.tale(1, 1), 7);

@@ -267,6 +267,15 @@ final class EdgesOfTime {
       }
       Check.due("none behind it", x.log(i + 1, 0), NONE);
     }
+    WinterTellers first = Check.coast("sb99a1;h;hk2;t;t;t");
+    Check.due("nights", first.tells(2), 7);
+    for (int i = 0; i < 59; i++) {
+      int[] due = {1, 2, 7};
+      for (int what = 0; what < 3; what++) {
+        Check.due("the very first, " + i + " behind it", first.log(i, what), due[what]);
+      }
+      first.tells(1);
+    }
     Edge.promise(21, "NONE: no such ones.");
     Supplier<WinterTellers> making = () -> acted(70);
     int size = making.get().count(13);
@@ -558,6 +567,17 @@ final class EdgesOfTime {
         alikeByLog("back from " + more + " acts", x, acted(acts));
         Check.due("none", x.undo(), NONE);
       }
+    }
+    // So many tellings behind the image that none of its log is left in any row of a hundred.
+    for (int tellings : new int[] {10, 60, 100}) {
+      WinterTellers x = toldSo(tellings);
+      x.image();
+      x.goes(1);
+      for (int i = 0; i < 130; i++) {
+        x.tells(5);
+      }
+      x.back();
+      alikeByLog("back from many tellings", x, toldSo(tellings));
     }
     WinterTellers x = Lively.make();
     int[] due = {x.count(11), x.count(12), x.count(4), x.count(3), x.count(2)};

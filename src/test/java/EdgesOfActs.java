@@ -51,11 +51,12 @@ final class EdgesOfActs {
     Check.law(x, "y:1");
     Check.law(x, "y:2");
     x.whys(0);
-    for (int i = 0; i < 200 && x.count(5) + 2 <= day; i++) {
-      x.years(Math.min(60, (day - x.count(5)) / 2), i);
+    int now = 0;
+    for (int i = 0; i < 250 && now + 2 <= day; i++) {
+      now = x.years(Math.min(60, (day - now) / 2), i);
     }
     x.law(0);
-    if (x.count(5) < day) {
+    if (now < day) {
       x.tells(0);
     }
     x.law(NONE);

@@ -108,7 +108,6 @@ final class EdgesOfTime {
 
   /** The i-th of a row of acts of each sort, none of which is refused. */
   private static void act(WinterTellers x, int i) {
-    int there = x.count(14);
     int answer = NONE;
     switch (i % 8) {
       case 0:
@@ -138,7 +137,6 @@ final class EdgesOfTime {
         break;
     }
     Check.due("act " + i + " is not refused", answer != NONE, true);
-    Check.due("act " + i + " can be undone", x.count(14), Math.min(there + 1, 40));
   }
 
   private static WinterTellers acted(int acts) {
@@ -146,6 +144,7 @@ final class EdgesOfTime {
     for (int i = 0; i < acts; i++) {
       act(x, i);
     }
+    Check.due("each can be undone", x.count(14), Math.min(acts, 40));
     return x;
   }
 
@@ -289,7 +288,7 @@ final class EdgesOfTime {
     Twins.refused("log without a coast", WinterTellers::new, y -> y.log(0, 0), NONE, -1);
   }
 
-  /** Tellings of which each differs from the next: tale i % 6, nights i % 19. */
+  /** Tellings of which each differs from the next: tale i % 6, with as many nights as it was heard, twenty at most. */
   private static WinterTellers toldSo(int tellings) {
     WinterTellers x = Check.coast("sb99;h;h;tl1;tl2;tl3;tl4;tl5;tl6");
     Check.law(x, "y:n");

@@ -51,12 +51,13 @@ final class Twins {
     for (int i = 0; i < 15; i++) {
       seen.add(x.count(i));
     }
+    int tales = x.count(1);
     for (int i = 0; i < 6; i++) {
       seen.add(x.house(i, 0));
       seen.add(x.house(i, 1));
       seen.add(x.house(i, 2));
       for (int what = 0; what < 4; what++) {
-        seen.add(i < x.count(1) ? x.tale(i, what) : NONE);
+        seen.add(i < tales ? x.tale(i, what) : NONE);
       }
       for (int tale = 0; tale < 6; tale++) {
         seen.add(x.heard(i, tale));
@@ -78,12 +79,14 @@ final class Twins {
   }
 
   private static void undone(WinterTellers x, List<Integer> seen) {
-    for (int i = 0; i < 41; i++) {
-      seen.add(x.undo());
-      for (int what = 5; what < 11; what++) {
+    int left = x.undo();
+    for (int i = 0; i < 41 && left >= 0; i++) {
+      for (int what = 5; what < 9; what++) {
         seen.add(x.count(what));
       }
       seen.add(x.count(13));
+      left = x.undo();
+      seen.add(left);
     }
     seen.add(x.house(0, 0));
     seen.add(x.house(1, 0));
